@@ -592,7 +592,7 @@ public final class CoilSlits {
 
         Grid(int rows, int columns) {
             this.columns = Math.max(columns, 0);
-            cells = new int[Math.max(rows, 0) * Math.max(columns, 0)];
+            cells = new int[Math.max(rows * this.columns, 0)];
         }
 
         int get(int row, int column) {
@@ -612,8 +612,8 @@ public final class CoilSlits {
         void copyRow(int from, int to) {
             int source = from * columns;
             int target = to * columns;
-            if (source >= 0 && source + columns <= cells.length
-                    && target >= 0 && target + columns <= cells.length) {
+            int last = cells.length - columns;
+            if (source >= 0 && source <= last && target >= 0 && target <= last) {
                 System.arraycopy(cells, source, cells, target, columns);
             }
         }
