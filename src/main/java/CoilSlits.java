@@ -800,14 +800,18 @@ public final class CoilSlits {
 
         /** As each coil goes where the fewest are, none of them finds a full stack while there is room. */
         boolean canDig(int place) {
-            int own = place / HIGH;
+            return coilsAbove(place) <= roomBeside(stackOf(place));
+        }
+
+        /** How many coils the other stacks have room for. */
+        private int roomBeside(int own) {
             int room = 0;
             for (int stack = 0; stack < STACKS; stack++) {
                 if (stack != own) {
                     room += HIGH - heights.get(stack);
                 }
             }
-            return coilsAbove(place) <= room;
+            return room;
         }
 
         int digOut(int place) {
@@ -950,11 +954,15 @@ public final class CoilSlits {
             int best = NONE;
             int bestWorth = 0;
             for (int place = 0; place < PLACES; place++) {
-                if (coils.get(place, NUMBER) == NONE || mismatch(order, place, take) != SUITS
-                        || !canDig(place)) {
+                if (coils.get(place, NUMBER) == NONE || mismatch(order, place, take) != SUITS) {
                     continue;
                 }
-                int worth = worthByRule(order, place, take);
+                // Not by canDig, nor in worthByRule: calls from digest on stay seven deep.
+                int above = coilsAbove(place);
+                if (above > roomBeside(stackOf(place))) {
+                    continue;
+                }
+                int worth = worthByRule(order, place, take, above);
                 boolean earlier = coils.get(place, NUMBER) < coils.get(best, NUMBER);
                 if (best == NONE || worth < bestWorth || worth == bestWorth && earlier) {
                     best = place;
@@ -965,13 +973,13 @@ public final class CoilSlits {
         }
 
         /** What the rule goes by: the least is the best. */
-        private int worthByRule(int order, int place, int take) {
+        private int worthByRule(int order, int place, int take, int above) {
             int width = coils.get(place, WIDTH);
             switch (settings.get(RULE)) {
                 case BY_REST:
                     return width - take * Math.min(stripsIn(width, take), orders.get(order, STILL));
                 case BY_ABOVE:
-                    return coilsAbove(place);
+                    return above;
                 default:
                     return coils.get(place, QUALITY);
             }

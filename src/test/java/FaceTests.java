@@ -41,9 +41,9 @@ public final class FaceTests {
     private static int failed = 0;
 
     public static void main(String[] args) throws IOException {
-        test("the face has just the methods of the document", methodsAreAsDue());
-        test("the face has just the constant and the constructor of the document", restIsAsDue());
-        test("no inner method bears the name of one of the face", innerNamesDiffer());
+        test("The public face: just the methods of the document", methodsAreAsDue());
+        test("The public face: just the constant and the constructor of the document", restIsAsDue());
+        test("The public face: no inner method bears the name of one of the face", innerNamesDiffer());
         String source = args.length > 0 ? args[0] : "src/main/java/CoilSlits.java";
         String text = new String(Files.readAllBytes(Path.of(source)), StandardCharsets.ISO_8859_1);
         test("LANGUAGE.md: nothing that is ruled out", nothingRuledOut(text));

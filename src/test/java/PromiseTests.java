@@ -1,24 +1,5 @@
-import java.util.ArrayList;
-import java.util.List;
-
 /** The promises of ../shared/DOC.md, one by one, with answers worked out by hand. */
-public final class PromiseTests {
-    private interface Call {
-        long answer();
-    }
-
-    private interface Test {
-        void run();
-    }
-
-    private static final Class<? extends RuntimeException> INDEX = IndexOutOfBoundsException.class;
-    private static final Class<? extends RuntimeException> ARGUMENT = IllegalArgumentException.class;
-    private static final Class<? extends RuntimeException> STATE = IllegalStateException.class;
-    private static final int NONE = -1;
-
-    private static final List<String> faults = new ArrayList<>();
-    private static int failed = 0;
-
+public final class PromiseTests extends Checks {
     public static void main(String[] args) {
         test("promise 1: a new object", PromiseTests::newObject);
         test("promise 2: receive", PromiseTests::receive);
@@ -67,113 +48,7 @@ public final class PromiseTests {
         test("promise 26: bestStack", PromiseTests::bestStack);
         test("promise 27: used", PromiseTests::used);
         test("promise 28: digest", PromiseTests::digest);
-        if (failed != 0) {
-            System.exit(1);
-        }
-    }
-
-    // ---- what the tests are written with
-
-    private static void test(String name, Test test) {
-        faults.clear();
-        try {
-            test.run();
-        } catch (RuntimeException e) {
-            faults.add("threw " + e);
-        }
-        for (String fault : faults) {
-            System.out.println("  " + fault);
-        }
-        System.out.println((faults.isEmpty() ? "PASS " : "FAIL ") + name);
-        failed += faults.isEmpty() ? 0 : 1;
-    }
-
-    private static void same(String what, long due, long got) {
-        if (due != got) {
-            faults.add(what + " answered " + got + ", due is " + due);
-        }
-    }
-
-    private static void sameShare(String what, double due, double got) {
-        same(what + " (bits)", Double.doubleToLongBits(due), Double.doubleToLongBits(got));
-    }
-
-    /** The call throws just this exception, and neither the state nor what undo finds is changed. */
-    private static void refuses(CoilSlits x, String what, Class<? extends RuntimeException> due, Call call) {
-        long before = x.digest();
-        try {
-            faults.add(what + " answered " + call.answer() + ", due is " + due.getSimpleName());
-        } catch (RuntimeException e) {
-            if (e.getClass() != due) {
-                faults.add(what + " threw " + e + ", due is " + due.getSimpleName());
-            }
-        }
-        same(what + ": the digest behind the exception", before, x.digest());
-    }
-
-    /** The call answers this, saves one state, and undo brings the state before it back. */
-    private static void undoable(CoilSlits x, String what, long due, Call call) {
-        long before = x.digest();
-        int kept = x.count(13);
-        same(what, due, call.answer());
-        same(what + ": saved states", kept + 1, x.count(13));
-        same(what + ": undo", kept, x.undo());
-        same(what + ": the digest behind undo", before, x.digest());
-        same(what + ", again", due, call.answer());
-    }
-
-    private static void type(CoilSlits x, String text) {
-        for (int i = 0; i < text.length(); i++) {
-            x.append(text.charAt(i));
-        }
-    }
-
-    private static CoilSlits typed(String text) {
-        CoilSlits x = new CoilSlits();
-        type(x, text);
-        return x;
-    }
-
-    private static CoilSlits withCoils(String text) {
-        CoilSlits x = typed(text);
-        x.receiveAll();
-        return x;
-    }
-
-    /** Stacks 0 to 5 with so many coils each, all of width 50, grade 0, quality 5, from stack 0 on. */
-    private static CoilSlits withHeights(int... heights) {
-        CoilSlits x = new CoilSlits();
-        for (int stack = 0; stack < heights.length; stack++) {
-            for (int i = 0; i < heights[stack]; i++) {
-                x.receive(50, 0, 5, stack);
-            }
-        }
-        return x;
-    }
-
-    private static void sameCoil(CoilSlits x, int coil, int... due) {
-        for (int what = 0; what < due.length; what++) {
-            same("coil(" + coil + ", " + what + ")", due[what], x.coil(coil, what));
-        }
-    }
-
-    private static void sameOrder(CoilSlits x, int place, int... due) {
-        for (int what = 0; what < due.length; what++) {
-            same("orderOf(" + place + ", " + what + ")", due[what], x.orderOf(place, what));
-        }
-    }
-
-    private static void sameCounts(CoilSlits x, int first, int... due) {
-        for (int i = 0; i < due.length; i++) {
-            same("count(" + (first + i) + ")", due[i], x.count(first + i));
-        }
-    }
-
-    private static void sameStack(CoilSlits x, int stack, int... due) {
-        for (int height = 0; height < 5; height++) {
-            int coil = height < due.length ? due[height] : NONE;
-            same("at(" + stack + ", " + height + ")", coil, x.at(stack, height));
-        }
+        finish();
     }
 
     // ---- promise 1
@@ -1040,49 +915,5 @@ public final class PromiseTests {
         sameDigest(x, "9");
         x.undo();
         sameDigest(x, "9");
-    }
-
-    private static void sameDigest(CoilSlits x, String buffer) {
-        List<Long> values = new ArrayList<>();
-        for (int what = 0; what < 14; what++) {
-            values.add((long) x.count(what));
-        }
-        for (int setting = 0; setting < 4; setting++) {
-            values.add((long) x.setting(setting));
-        }
-        for (int place = 0; place < 30; place++) {
-            int coil = x.at(place / 5, place % 5);
-            values.add((long) coil);
-            for (int what = 0; coil != NONE && what < 6; what++) {
-                values.add((long) x.coil(coil, what));
-            }
-        }
-        for (int place = 0; x.orderOf(place, 0) != NONE; place++) {
-            addOrder(values, x, place);
-        }
-        values.add((long) x.bestRule());
-        values.add((long) x.bestStack());
-        values.add(Double.doubleToLongBits(x.used()));
-        values.add((long) buffer.length());
-        for (char letter : buffer.toCharArray()) {
-            values.add((long) letter);
-        }
-        long hash = 2879;
-        for (long value : values) {
-            hash = 31 * hash + value;
-        }
-        same("digest() with the buffer " + buffer, hash, x.digest());
-        same("digest(), again", hash, x.digest());
-    }
-
-    private static void addOrder(List<Long> values, CoilSlits x, int place) {
-        for (int what = 0; what < 8; what++) {
-            values.add((long) x.orderOf(place, what));
-        }
-        int number = x.orderOf(place, 0);
-        values.add((long) x.choice(number));
-        for (int what = 0; what < 8; what++) {
-            values.add((long) x.ifServed(number, what / 4, what % 4));
-        }
     }
 }
