@@ -40,9 +40,14 @@ class Checks {
         failed += faults.isEmpty() ? 0 : 1;
     }
 
+    /** Says that the running test has found something wrong. */
+    protected static void fault(String what) {
+        faults.add(what);
+    }
+
     protected static void same(String what, long due, long got) {
         if (due != got) {
-            faults.add(what + " answered " + got + ", due is " + due);
+            fault(what + " answered " + got + ", due is " + due);
         }
     }
 
